@@ -24,7 +24,7 @@ public final class ModelTest {
     }
 
     private void play(int mostWide, int mostHigh) {
-        readSea(1 + dice.nextInt(mostWide), 1 + dice.nextInt(mostHigh));
+        readSea(mostWide - dice.nextInt(3), mostHigh - dice.nextInt(3));
         setRules();
         int rounds = mostWide > 6 ? 60 : 110;
         for (int k = 0; k < rounds && calls < 480; k++) {

@@ -76,6 +76,9 @@ public final class ReadTest {
         Check.due("cells of sea", 111, sea.count(2));
         Check.due("tape is empty", 0, sea.count(4));
         Check.due("last cell", 7, sea.cell(1109));
+        for (int xy : new int[] {1200, 1201, 1209, 10, 110, 1110, 1210}) {
+            Check.due("cell(" + xy + ") of 12 by 10", -1, sea.cell(xy));
+        }
         Check.due("a smaller one after it", 6, Check.readInto(sea, "..B/A.."));
         Check.due("its wide", 3, sea.count(0));
         Check.due("its high", 2, sea.count(1));

@@ -155,6 +155,7 @@ public final class RulesTest {
         HalfSea corner = Check.sea(".A./A../...");
         Check.due("by y ahead of x", 100, corner.from(101, 0));
         Check.due("itself", 1, corner.from(1, 0));
+        Check.due("from the first cell", 100, corner.from(0, 0));
         Check.due("none", -9, corner.from(101, 1));
         HalfSea half = Check.sea("a..A");
         Check.due("nearest", 0, half.from(100, 0));

@@ -13,6 +13,7 @@ public final class SharesTest {
         moved();
         movedRefusals();
         mostMoved();
+        greatest();
         Check.end();
     }
 
@@ -98,6 +99,9 @@ public final class SharesTest {
         HalfSea left = Check.sea("Brrrr../.rr.rrA");
         Check.due("bent to -6", -6, left.bent(0));
         Check.due("not bent", 0, left.bent(2));
+        // the cell (7,1) has 50 and 17: 50 (100 - b) is below 17 (100 + b) for b = 50 alone
+        Check.due("bent to 50", 50, Check.sea("ArrrrrrrrrrB/.rrrrrr.rr..").bent(0));
+        Check.due("bent to -50", -50, Check.sea("BrrrrrrrrrrA/.rrrrrr.rr..").bent(0));
         HalfSea set = Check.sea("A....B");
         set.rule(3, 50);
         Check.due("bend is told from 0, not from what is set", 0, set.bent(0));
@@ -148,6 +152,7 @@ public final class SharesTest {
         HalfSea lines = Check.sea("rrrrrrrrrrrA/Arrrrrrrrrr./.rrrrrrrrrrB/Brrrrrrrrrrr");
         Check.due("even cells at the two ends of lines", 2, lines.area(-2));
         Check.due("do not hang together", 2, lines.pieces());
+        Check.due("the first cell alone", 1, Check.sea(".A/Br").pieces());
         HalfSea again = Check.sea("A.BrA.B");
         Check.due("once", 2, again.pieces());
         Check.due("and again", 2, again.pieces());
@@ -205,6 +210,32 @@ public final class SharesTest {
         Check.due("moves of a rock", -3, sea.moves(200));
         Check.due("refusals -1", 3, sea.count(11));
         Check.due("refusals -3", 2, sea.count(13));
+    }
+
+    /** All the edges of 12 by 10: nothing goes round a side into the next line, or out. */
+    private static void greatest() {
+        StringBuilder text = new StringBuilder("A..........A");
+        for (int y = 1; y < 9; y++) {
+            text.append("/............");
+        }
+        HalfSea sea = Check.sea(text.append("/C..........B").toString());
+        Check.due("shore(0)", 2, sea.shore(0));
+        Check.due("shore(1)", 1, sea.shore(1));
+        Check.due("shore(2)", 1, sea.shore(2));
+        Check.due("area(0)", 58, sea.area(0));
+        Check.due("area(1)", 29, sea.area(1));
+        Check.due("area(2)", 29, sea.area(2));
+        Check.due("fair", 58 - 2 * 29, sea.fair());
+        Check.due("pieces", 0, sea.pieces());
+        Check.due("without B", 29, sea.moves(1109));
+        Check.due("most", 8, Check.sea("A/./././././././C/.").most());
+        sea.rule(0, 9);
+        Check.due("ten cells are no bay of nine", -9, sea.inner(100));
+        sea.grow(1108, 2);
+        sea.grow(8, 2);
+        Check.due("ten cells of the line ahead of the last", -9, sea.inner(108));
+        sea.grow(208, 2);
+        Check.due("a bay at the last lines", 2, sea.inner(108));
     }
 
     private static void mostMoved() {

@@ -8,6 +8,7 @@ public final class WellsTest {
         chosenByWorthAndArea();
         chosenByMouth();
         chosenByReach();
+        chosenByAll();
         chosenRefusals();
         claimsOfBoth();
         meets();
@@ -139,6 +140,22 @@ public final class WellsTest {
         Check.due("more reach has more area", 0, lone.chosen(0));
     }
 
+    /** With REACH 4 the three parts do not touch: each is for land 1 by another of the three rules. */
+    private static void chosenByAll() {
+        String rocks = "/rrrrrrrrrrrr";
+        HalfSea sea = Check.sea("A....Brrrrrr" + rocks.repeat(5) + "/B.Brrrrrrbr./rArrrrrrrrrr");
+        sea.rule(0, 1);
+        sea.rule(2, 4);
+        sea.rule(3, 50);
+        Check.due("all of them for 1", 211, sea.chosen(1));
+        Check.due("none of them for 0", 0, sea.chosen(0));
+        Check.due("meet(0, 4)", 211, sea.meet(0, 4));
+        Check.due("meet(0, 5)", -9, sea.meet(0, 5));
+        Check.due("claims", 2, sea.claims());
+        Check.due("claimed(106)", 3, sea.claimed(106));
+        Check.due("claimed(1106)", 2, sea.claimed(1106));
+    }
+
     private static void chosenRefusals() {
         HalfSea sea = Check.sea("A.B");
         for (int land : new int[] {3, -1, -2, Integer.MIN_VALUE, Integer.MAX_VALUE}) {
@@ -170,6 +187,10 @@ public final class WellsTest {
         Check.due("refusals -1", 3, reach.count(11));
         Check.due("rules stay", 4, reach.rule(2, 4));
         Check.due("land 2 claims nothing", 0, Check.sea("C..").claimed(100));
+        // with the island land 0's, without it land 1's
+        HalfSea first = Check.sea(".a.B");
+        Check.due("the first cell", 3, first.claimed(0));
+        Check.due("it alone", 1, first.claims());
     }
 
     private static void meets() {
