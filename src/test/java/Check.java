@@ -1,7 +1,16 @@
+import java.lang.reflect.InvocationTargetException;
+import java.lang.reflect.Method;
+import java.lang.reflect.Modifier;
+import java.util.ArrayList;
+import java.util.Comparator;
+import java.util.List;
+
 /** What every test of the project uses: calls with the answers that are due, and texts fed as bytes. */
 final class Check {
     private static int wrong = 0;
     private static int asked = 0;
+    /** The test that runs now, told with each wrong answer. */
+    private static String running = "";
 
     private Check() {
     }
@@ -10,12 +19,52 @@ final class Check {
         asked++;
         if (got != want) {
             wrong++;
-            System.out.println(call + " answered " + got + ", due is " + want);
+            System.out.println(running + call + " answered " + got + ", due is " + want);
         }
     }
 
     static void holds(String what, boolean is) {
         due(what, 1, is ? 1 : 0);
+    }
+
+    /** Runs every static method of a test class that is not private and takes nothing, each for itself. */
+    static void runEach(Class<?> test) throws IllegalAccessException {
+        int passed = 0;
+        int failed = 0;
+        for (Method one : testsOf(test)) {
+            int wrongAhead = wrong;
+            int askedAhead = asked;
+            running = test.getSimpleName() + "." + one.getName() + ": ";
+            try {
+                one.invoke(null);
+            } catch (InvocationTargetException thrown) {
+                holds("threw " + thrown.getCause() + ", so that it ended", false);
+            }
+            holds("asked something", asked > askedAhead);
+            if (wrong == wrongAhead) {
+                passed++;
+            } else {
+                failed++;
+            }
+        }
+        running = "";
+        holds(test.getSimpleName() + " has tests", passed + failed > 0);
+        System.out.println(test.getSimpleName() + ": " + passed + " passed, " + failed + " failed");
+        if (wrong != 0) {
+            System.exit(1);
+        }
+    }
+
+    private static List<Method> testsOf(Class<?> test) {
+        List<Method> tests = new ArrayList<>();
+        for (Method method : test.getDeclaredMethods()) {
+            boolean hidden = Modifier.isPrivate(method.getModifiers()) || method.isSynthetic();
+            if (!hidden && Modifier.isStatic(method.getModifiers()) && method.getParameterCount() == 0) {
+                tests.add(method);
+            }
+        }
+        tests.sort(Comparator.comparing(Method::getName));
+        return tests;
     }
 
     /** Feeds a text in eights; answers what the last feed did. */
@@ -42,6 +91,29 @@ final class Check {
         int lines = text.split("/", -1).length;
         due("read of " + text, text.length() - lines + 1, readInto(sea, text));
         return sea;
+    }
+
+    static HalfSea sea(String text, int mouth, int weight, int reach, int bend) {
+        HalfSea sea = sea(text);
+        setRules(sea, mouth, weight, reach, bend);
+        return sea;
+    }
+
+    static void setRules(HalfSea sea, int... rules) {
+        for (int rule = 0; rule < rules.length; rule++) {
+            sea.rule(rule, rules[rule]);
+        }
+    }
+
+    /** A text of some lines that are all the same. */
+    static String lines(String line, int high) {
+        return ("/" + line).repeat(high).substring(1);
+    }
+
+    /** The greatest sea, of one sign but for its first cell. */
+    static String greatest(char first, char others) {
+        String line = String.valueOf(others).repeat(12);
+        return first + line.substring(1) + ("/" + line).repeat(9);
     }
 
     static int refused(HalfSea sea) {

@@ -1,3 +1,4 @@
+import java.io.File;
 import java.lang.reflect.Constructor;
 import java.lang.reflect.Field;
 import java.lang.reflect.Method;
@@ -34,6 +35,7 @@ public final class FaceTest {
             names(inside);
         }
         source();
+        promises();
         Check.end();
     }
 
@@ -81,6 +83,20 @@ public final class FaceTest {
             Check.holds(method + " has a name of its own",
                     Modifier.isPublic(method.getModifiers()) || !taken.contains(method.getName()));
         }
+    }
+
+    /** Each promise of the document has a test file that bears its number. */
+    private static void promises() throws Exception {
+        String tests = String.join(" ", new File("src/test/java").list());
+        Matcher heading = Pattern.compile("(?m)^## Promise (\\d+):").matcher(
+                Files.readString(Path.of("../shared/DOC.md")));
+        int found = 0;
+        while (heading.find()) {
+            found++;
+            String name = String.format("Promise%02d", Integer.parseInt(heading.group(1)));
+            Check.holds(name + " has a test", Pattern.compile(name + "\\w+Test\\.java").matcher(tests).find());
+        }
+        Check.due("promises", 31, found);
     }
 
     private static void source() throws Exception {
