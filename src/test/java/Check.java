@@ -116,6 +116,18 @@ final class Check {
         return first + line.substring(1) + ("/" + line).repeat(9);
     }
 
+    /** The greatest sea, all rocks but for a small text of which x, y is the first cell. */
+    static String amongRocks(String small, int x, int y) {
+        String[] lines = small.split("/");
+        StringBuilder text = new StringBuilder();
+        for (int line = 0; line < 10; line++) {
+            String own = line >= y && line < y + lines.length ? lines[line - y] : "";
+            text.append(line == 0 ? "" : "/").append("r".repeat(x)).append(own);
+            text.append("r".repeat(12 - x - own.length()));
+        }
+        return text.toString();
+    }
+
     static int refused(HalfSea sea) {
         int all = 0;
         for (int kind = 11; kind <= 16; kind++) {

@@ -145,6 +145,24 @@ public final class Promise06InnerTest {
         Check.due("seven cells of the last column", 1, sea.inner(1107));
     }
 
+    static void inARowAtEveryPlace() {
+        for (int y = 0; y < 10; y++) {
+            for (int x = 1; x < 11; x++) {
+                HalfSea sea = Check.sea(Check.amongRocks("C.C", x - 1, y), 1, 2, 20, 0);
+                Check.due("inner of " + x + ", " + y, 2, sea.inner(100 * x + y));
+            }
+        }
+    }
+
+    static void inAColumnAtEveryPlace() {
+        for (int y = 1; y < 9; y++) {
+            for (int x = 0; x < 12; x++) {
+                HalfSea sea = Check.sea(Check.amongRocks("B/./B", x, y - 1), 1, 2, 20, 0);
+                Check.due("inner of " + x + ", " + y, 1, sea.inner(100 * x + y));
+            }
+        }
+    }
+
     static void nobody() {
         for (int xy : new int[] {3, 400, -1, -100, 10, Integer.MIN_VALUE, Integer.MAX_VALUE}) {
             Refusal.due("inner(" + xy + ")", -1, sea -> sea.inner(xy));

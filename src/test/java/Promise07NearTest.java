@@ -49,6 +49,13 @@ public final class Promise07NearTest {
         Check.due("near of the only sea", 1, islands.near(1109, 2));
     }
 
+    static void theLastOf120BasesIsAsFarAsItIs() {
+        HalfSea sea = Check.sea(Check.greatest('C', 'A'));
+        Check.due("near(1109, 2)", 202, sea.near(1109, 2));
+        Check.due("near(1100, 2)", 121, sea.near(1100, 2));
+        Check.due("near(9, 2)", 81, sea.near(9, 2));
+    }
+
     static void isNoneWithoutBases() {
         HalfSea sea = Check.sea("A.r");
         Check.due("near(100, 0)", 1, sea.near(100, 0));

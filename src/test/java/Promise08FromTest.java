@@ -64,6 +64,13 @@ public final class Promise08FromTest {
         Check.due("an island", 300, sea.from(300, 2));
     }
 
+    static void theLastOf120Bases() {
+        HalfSea sea = Check.sea(Check.greatest('C', 'A'));
+        Check.due("from(1109, 2)", 0, sea.from(1109, 2));
+        HalfSea all = Check.sea(Check.greatest('C', 'C'));
+        Check.due("from(1109, 2) of one land", 1109, all.from(1109, 2));
+    }
+
     static void noneWithoutBases() {
         HalfSea sea = Check.sea("A.b");
         Check.due("from(100, 2)", -9, sea.from(100, 2));

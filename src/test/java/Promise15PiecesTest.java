@@ -64,6 +64,30 @@ public final class Promise15PiecesTest {
         pieces("rrrrrrrrrrrA/Arrrrrrrrrr./.rrrrrrrrrrB/Brrrrrrrrrrr", 2, 2);
     }
 
+    /** Met from the cell at the left first, and from the one at the right first. */
+    static void endOfALineIsNotBesideTheNextFromEitherSide() {
+        pieces("ArrrrrrrrrrA/.BrrrrrrrrB./.BrrrrrrrrB./ArrrrrrrrrrA", 4, 2);
+        pieces("rrrrrrrrrrrA/ArrrrrrrrrB./.BrrrrrrrrB./.BrrrrrrrrrA/Arrrrrrrrrrr", 4, 2);
+    }
+
+    static void oneCellAtEveryPlace() {
+        for (int y = 0; y < 9; y++) {
+            for (int x = 0; x < 11; x++) {
+                pieces(Check.amongRocks(".A/Br", x, y), 1, 1);
+                pieces(Check.amongRocks("rA/B.", x, y), 1, 1);
+            }
+        }
+    }
+
+    static void twoCellsByACornerAtEveryPlace() {
+        for (int y = 0; y < 8; y++) {
+            for (int x = 0; x < 10; x++) {
+                pieces(Check.amongRocks("rrB/r.r/Ar.", x, y), 2, 1);
+                pieces(Check.amongRocks(".rA/r.r/Brr", x, y), 2, 1);
+            }
+        }
+    }
+
     static void many() {
         pieces("A.BrA.BrA.B" + "/rrrrrrrrrrr/A.BrA.BrA.B".repeat(4), 15, 15);
     }

@@ -42,6 +42,21 @@ public final class Promise16TurningsTest {
         turnings(new StringBuilder(text).reverse().toString(), 1);
     }
 
+    static void turnsInTheCornersOfTheGreatestSea() {
+        String text = "..rrrrB/.rrrrrr/rrrrrrr/rrrrrAr/rrrrrrr/rrrBrrr/Arrrrrr";
+        turnings(Check.amongRocks(text, 0, 0), 1);
+        turnings(Check.amongRocks(new StringBuilder(text).reverse().toString(), 5, 3), 1);
+    }
+
+    static void atEveryPlace() {
+        for (int y = 0; y < 8; y++) {
+            for (int x = 0; x < 10; x++) {
+                turnings(Check.amongRocks("rBA/A../A.B", x, y), 1);
+                turnings(Check.amongRocks("B.A/..A/ABr", x, y), 1);
+            }
+        }
+    }
+
     static void inXAloneOrInYAloneIsNoTurn() {
         turnings("A.B/r.r/C.C", 0);
         turnings("ArB/.../CrC", 0);
@@ -65,5 +80,6 @@ public final class Promise16TurningsTest {
 
     static void endOfALineIsNotBesideTheNext() {
         turnings("rrrrrrrrrrrA/Arrrrrrrrrr./.rrrrrrrrrrB/Brrrrrrrrrrr", 0);
+        turnings("ArrrrrrrrrrA/.BrrrrrrrrB./.BrrrrrrrrB./ArrrrrrrrrrA", 0);
     }
 }

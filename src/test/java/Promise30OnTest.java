@@ -83,6 +83,22 @@ public final class Promise30OnTest {
         Check.due("wells after read", 2, sea.count(3));
     }
 
+    static void allTwelveWellsAreAsThen() {
+        HalfSea sea = Check.sea("A..B");
+        for (int k = 1; k <= 12; k++) {
+            sea.well(k % 2 == 0 ? 100 : 200, k);
+        }
+        sea.image();
+        Check.readInto(sea, "A..B");
+        for (int k = 1; k <= 12; k++) {
+            sea.well(200, 90);
+        }
+        sea.on();
+        Check.due("wells", 12, sea.count(3));
+        Check.due("worth(0)", 42, sea.worth(0));
+        Check.due("worth(1)", 36, sea.worth(1));
+    }
+
     static void wellsOfLaterAreNone() {
         HalfSea sea = Check.sea("A..");
         sea.image();
