@@ -12,7 +12,26 @@ final class Check {
     /** The test that runs now, told with each wrong answer. */
     private static String running = "";
 
+    /** A call that does not end must fail its test, not keep .ci/run waiting. */
+    private static final int MOST_SECONDS = 300;
+
+    static {
+        Thread watch = new Thread(Check::failIfItDoesNotEnd);
+        watch.setDaemon(true);
+        watch.start();
+    }
+
     private Check() {
+    }
+
+    private static void failIfItDoesNotEnd() {
+        try {
+            Thread.sleep(1000L * MOST_SECONDS);
+        } catch (InterruptedException stopped) {
+            return;
+        }
+        System.out.println(running + "has not ended after " + MOST_SECONDS + " seconds");
+        Runtime.getRuntime().halt(1);
     }
 
     static void due(String call, long want, long got) {

@@ -7,9 +7,8 @@ public final class Promise02FeedTest {
 
     private static HalfSea fedTo(int length) {
         HalfSea sea = new HalfSea();
-        int told = 0;
-        while (told < length) {
-            told = sea.feed(Math.min(8, length - told), 0x2E2E2E2E2E2E2E2EL);
+        for (int fed = 0; fed < length; fed += 8) {
+            sea.feed(Math.min(8, length - fed), 0x2E2E2E2E2E2E2E2EL);
         }
         Check.due("a tape of " + length, length, sea.count(4));
         return sea;
